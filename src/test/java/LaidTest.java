@@ -8,6 +8,8 @@ public final class LaidTest {
         wrongOnes();
         faultyAndOut();
         longCalls();
+        lineNoughtAndJunction();
+        selectorsOnly();
         Due.finish("LaidTest");
     }
 
@@ -165,6 +167,38 @@ public final class LaidTest {
             x.faulty(i, true);
         }
         due(x, 2, 103, 3, -1, -1);
+    }
+
+    /** A call to line 0 is not laid over a junction instead. */
+    private static void lineNoughtAndJunction() {
+        TownExchange x = new TownExchange();
+        x.rack(0, 4, 1);
+        x.rack(1, 1, 1);
+        x.rack(0, 1, 1);
+        x.outlet(0, 0, 1, 0, 16);
+        x.outlet(0, 0, 1, 1, 100);
+        x.outlet(2, 0, 1, 0, 8);
+        x.outlet(0, 0, 2, 0, 8);
+        for (int i = 0; i < 4; i++) {
+            x.line(0, 1, i);
+        }
+        Due.is("rung", Due.call(x, 1, "1100"), 5);
+        due(x, 2, 203, 3, -1, -1);
+    }
+
+    /** Five digits that end at a selector ring nothing. */
+    private static void selectorsOnly() {
+        TownExchange x = new TownExchange();
+        for (int i = 0; i < 7; i++) {
+            x.rack(0, 1, 1);
+        }
+        x.rack(1, 1, 1);
+        for (int i = 0; i < 6; i++) {
+            x.outlet(i, 0, 0, 0, 8 * i + 8);
+        }
+        x.line(0, 7, 0);
+        due(x, 0, 0, 5, -1, -1);
+        Due.is("goes on", x.would(0, 0, 5), 1);
     }
 
     /** A call that took six digits stays where it is, one of five moves. */

@@ -113,6 +113,10 @@ public final class TariffTest {
         wrong("let a=1;let b=a;let b=1;", 3, 20);
         right("let a=1;let b=a;let c=a+b;unit 1 each 60 when c;", 4, 3);
         right("let zon=1;let zones=zon;", 2, 2);
+        right("let a=1;let aa=1;let aaa=1;let ab=1;let ba=1;let b=1;", 6, 6);
+        right("let abcdefgh=1;let bbcdefgh=1;let abcdefgi=1;let bcdefgh=1;let z=1;let za=1;", 6, 6);
+        Due.is("names are told apart", unitsOf("let ab=1;let ba=2;let aa=4;let b=8;let aaaaaaab=16;let baaaaaab=32;"
+                + "unit 1 each 60 when ab+ba*2+aa*4+b*8+aaaaaaab*16+baaaaaab*32 = 1365;", false, 0, 1), 1);
     }
 
     private static void numbers() {
@@ -242,7 +246,7 @@ public final class TariffTest {
 
     /** An operand of each kind of operation waits in each bracket. */
     private static String deepest(int brackets) {
-        return brackets == 0 ? "1" : "1 and 2 = 1 + 1 * (" + deepest(brackets - 1) + ") + 0";
+        return brackets == 0 ? "1 and 2 = 1 + 1 * 1 + 0" : "1 and 2 = 1 + 1 * (" + deepest(brackets - 1) + ") + 0";
     }
 
     private static void operations() {
@@ -267,7 +271,7 @@ public final class TariffTest {
         Due.is("round in 32 bits", unitsOf("let b = 8192 * 8192 * 32; unit 1 each 60 when b < 0; ", false, 0, 1), 1);
         Due.is("round to 0", value("8192 * 8192 * 64", 0), 1);
         Due.is("as deep as can be", value(deepest(4), 1), 1);
-        Due.is("as deep as can be, not met", value(deepest(4).replace("(1)", "(0)"), 0), 1);
+        Due.is("as deep as can be, not met", value(deepest(4).replace("1 * 1", "1 * 0"), 0), 1);
         Due.is("names of names", unitsOf("let a = lasted; let b = a + a; let c = b * b - a; unit 3 each 60 when c = 0; unit 1 each 60 when b = 120 and c = 7170 + 7170;", false, 0, 120), 4);
         Due.is("a name between units", unitsOf("unit 1 each 60 when 60 < lasted; let a = lasted; unit 2 each 60 when a = 60;", false, 0, 181), 4);
     }

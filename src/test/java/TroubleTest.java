@@ -6,6 +6,8 @@ public final class TroubleTest {
         twoAndThree();
         none();
         full();
+        sixSwitches();
+        apart();
         Due.finish("TroubleTest");
     }
 
@@ -119,6 +121,53 @@ public final class TroubleTest {
         Due.is("and is sure", y.sure(0), 1);
         y.test(0, 101, 3);
         Due.is("no more", y.explain(0), 2);
+    }
+
+    /** Five digits over selectors meet six switches; all but the last pass over junctions. */
+    private static void sixSwitches() {
+        TownExchange x = new TownExchange();
+        for (int i = 0; i < 6; i++) {
+            x.rack(0, 1, 1);
+        }
+        x.rack(1, 1, 1);
+        for (int i = 0; i < 5; i++) {
+            x.outlet(i, 0, 0, 0, 8 * i + 8);
+            x.outlet(i, 0, 9, 0, 100);
+            x.line(i, 6, i);
+        }
+        x.faulty(40, true);
+        Due.is("silent at the sixth", x.test(0, 0, 5), 2);
+        Due.is("any of six", x.explain(0), 1);
+        for (int i = 0; i < 5; i++) {
+            Due.is("the least that has not passed", x.explain(1), 8 * i);
+            Due.is("is not sure", x.sure(8 * i), 0);
+            Due.is("it passes", x.test(i, 9000, 4), 5);
+        }
+        Due.is("the sixth is left", x.explain(1), 40);
+        Due.is("and sure", x.sure(40), 1);
+    }
+
+    /** Two tests that have no switch in common take two, whatever was noted before. */
+    private static void apart() {
+        TownExchange x = new TownExchange();
+        x.rack(0, 1, 1);
+        x.rack(0, 1, 1);
+        x.rack(1, 2, 1);
+        x.outlet(0, 0, 1, 0, 16);
+        x.outlet(1, 0, 1, 0, 17);
+        x.line(0, 2, 0);
+        x.line(1, 2, 1);
+        x.faulty(16, true);
+        x.faulty(17, true);
+        for (int round = 0; round < 2; round++) {
+            x.test(0, 101, 3);
+            x.test(1, 100, 3);
+            Due.is("two", x.explain(0), 2);
+            Due.is("0", x.explain(1), 0);
+            Due.is("and 8", x.explain(2), 8);
+            Due.is("four sets, none is sure", x.sure(0) + x.sure(8) + x.sure(16) + x.sure(17), 0);
+            x.forget();
+        }
     }
 
     private static void none() {

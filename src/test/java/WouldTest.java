@@ -15,6 +15,7 @@ public final class WouldTest {
         Due.is("still", x.would(0, 41, 2), 1);
         Due.is("rung", x.would(0, 411, 3), 5);
         Due.is("more digits", x.would(0, 41199, 5), 5);
+        Due.is("a nought", x.would(0, 0, 1), 4);
         Due.is("itself", x.would(0, 410, 3), 3);
         Due.is("no such", x.would(0, 477, 3), 4);
         Due.is("no level", x.would(0, 5, 1), 4);
