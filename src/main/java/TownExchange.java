@@ -323,8 +323,8 @@ public final class TownExchange {
         }
 
         int addRack(int kind, int count, int parts) {
-            boolean kindFits = kind == SELECTORS && parts >= 1 && parts <= MOST_SECTIONS || kind == FINALS && parts == 1;
-            if (!kindFits || count < 1 || count > MOST_SWITCHES || racks == MOST_RACKS) {
+            int mostParts = kind == SELECTORS ? MOST_SECTIONS : kind == FINALS ? 1 : 0;
+            if (parts < 1 || parts > mostParts || count < 1 || count > MOST_SWITCHES || racks == MOST_RACKS) {
                 return NONE;
             }
             kinds[racks] = kind;
@@ -363,7 +363,8 @@ public final class TownExchange {
         }
 
         boolean isSwitch(int which) {
-            return which >= 0 && which < racks * MOST_SWITCHES && which % MOST_SWITCHES < switches[which / MOST_SWITCHES];
+            boolean inRack = which >= 0 && which < racks * MOST_SWITCHES;
+            return inRack && which % MOST_SWITCHES < switches[which / MOST_SWITCHES];
         }
 
         boolean isEnd(int end) {
