@@ -393,9 +393,12 @@ public final class TownExchange {
         }
 
         int leadsFrom(int selector, int level, int place) {
-            int rack = selector / MOST_SWITCHES;
-            int section = selector % MOST_SWITCHES % sections[rack];
-            return outlets[spot(rack, section, level) + place];
+            return outlets[spot(selector / MOST_SWITCHES, sectionOf(selector), level) + place];
+        }
+
+        /** A name is eight times the rack and the number, so it is as even or odd as the number. */
+        int sectionOf(int selector) {
+            return sections[selector / MOST_SWITCHES] == MOST_SECTIONS ? selector % MOST_SECTIONS : 0;
         }
 
         boolean isOut(int end) {
@@ -794,7 +797,7 @@ public final class TownExchange {
                 }
             }
             for (int number = 0; number < plant.switches[rack]; number++) {
-                wanting[number % plant.sections[rack]]++;
+                wanting[plant.sectionOf(rack * MOST_SWITCHES + number)]++;
             }
             return true;
         }

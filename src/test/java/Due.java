@@ -1,6 +1,8 @@
 import java.util.NoSuchElementException;
+import java.util.function.IntPredicate;
+import java.util.function.IntToLongFunction;
 
-/** What the tests share: comparing, feeding a text, and small exchanges to start from. */
+/** What the tests share: comparing, ranges, feeding a text, and small exchanges to start from. */
 final class Due {
     private static int checks = 0;
     private static int wrong = 0;
@@ -18,6 +20,36 @@ final class Due {
 
     static void is(String what, boolean got, boolean want) {
         is(what, got ? 1 : 0, want ? 1 : 0);
+    }
+
+    static void is(String what, String got, String want) {
+        checks++;
+        if (!got.equals(want)) {
+            wrong++;
+            System.out.println(what + " answered " + got + ", due is " + want);
+        }
+    }
+
+    /** Something else than NONE at both ends of a range, and NONE right beside them and far away. */
+    static void range(String what, IntToLongFunction answer, int least, int most) {
+        is(what + " " + least + " is allowed", answer.applyAsLong(least) != TownExchange.NONE, true);
+        is(what + " " + most + " is allowed", answer.applyAsLong(most) != TownExchange.NONE, true);
+        for (int n : beside(least, most)) {
+            is(what + " " + n, answer.applyAsLong(n), TownExchange.NONE);
+        }
+    }
+
+    /** Yes at both ends of a range, no right beside them and far away. */
+    static void yes(String what, IntPredicate answer, int least, int most) {
+        is(what + " " + least, answer.test(least), true);
+        is(what + " " + most, answer.test(most), true);
+        for (int n : beside(least, most)) {
+            is(what + " " + n, answer.test(n), false);
+        }
+    }
+
+    private static int[] beside(int least, int most) {
+        return new int[] {least - 1, most + 1, Integer.MIN_VALUE, Integer.MAX_VALUE};
     }
 
     static void lookThrows(String what, TownExchange x, int line, int which) {
@@ -74,6 +106,29 @@ final class Due {
     static int call(TownExchange x, int line, String digits) {
         x.lift(line);
         return dialAll(x, line, digits);
+    }
+
+    /** Lets so many seconds pass, as many as there are. */
+    static void pass(TownExchange x, int seconds) {
+        for (int left = seconds; left > 0; left -= 100000) {
+            x.seconds(Math.min(left, 100000));
+        }
+    }
+
+    /** What a line sees of its call: look(line, 0) to look(line, 5). */
+    static void looks(String what, TownExchange x, int line, int... want) {
+        for (int i = 0; i < want.length; i++) {
+            is(what + ": look " + i, x.look(line, i), want[i]);
+        }
+    }
+
+    /** What a line holds, in order, and nothing more. */
+    static void path(String what, TownExchange x, int line, int... want) {
+        for (int i = 0; i < want.length; i++) {
+            is(what + ": path " + i, x.path(line, i), want[i]);
+            is(what + ": held " + want[i], x.held(want[i]), line);
+        }
+        is(what + ": path beyond", x.path(line, want.length), TownExchange.NONE);
     }
 
     /** Rack 0: 4 selectors, 1 section; rack 1: 2 finals at level 4; junction 0 at level 9; lines 0 to 3, numbers 10 to 13. */
