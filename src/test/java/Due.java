@@ -131,7 +131,7 @@ final class Due {
         is(what + ": path beyond", x.path(line, want.length), TownExchange.NONE);
     }
 
-    /** Rack 0: 4 selectors, 1 section; rack 1: 2 finals at level 4; junction 0 at level 9; lines 0 to 3, numbers 10 to 13. */
+    /** Rack 0: 4 selectors; rack 1: 2 finals, at level 4; junction 0 at level 9; lines 0 to 3, numbers 10 to 13. */
     static TownExchange small() {
         TownExchange x = new TownExchange();
         x.rack(0, 4, 1);
@@ -141,6 +141,20 @@ final class Due {
         x.outlet(0, 0, 9, 0, 100);
         for (int i = 0; i < 4; i++) {
             x.line(0, 1, 10 + i);
+        }
+        return x;
+    }
+
+    /** Rack 0: 4 selectors; rack 1: 2 finals, both at level 1, 8 alone at level 2; lines 0 to 5, numbers 0 to 5. */
+    static TownExchange pair() {
+        TownExchange x = new TownExchange();
+        x.rack(0, 4, 1);
+        x.rack(1, 2, 1);
+        x.outlet(0, 0, 1, 0, 8);
+        x.outlet(0, 0, 1, 1, 9);
+        x.outlet(0, 0, 2, 0, 8);
+        for (int i = 0; i < 6; i++) {
+            x.line(0, 1, i);
         }
         return x;
     }

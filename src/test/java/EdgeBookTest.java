@@ -178,7 +178,8 @@ public final class EdgeBookTest {
     /** The sum over its calls of these DAYS, the first and the last among them. */
     private static void billOfDays() {
         TownExchange x = Due.small();
-        Due.tariff(x, "unit 1 each 60 when day=0;unit 2 each 60 when day=1;unit 4 each 60 when day=2;unit 8 each 60 when day=3;");
+        Due.tariff(x, "unit 1 each 60 when day=0;unit 2 each 60 when day=1;"
+                + "unit 4 each 60 when day=2;unit 8 each 60 when day=3;");
         for (int day = 0; day < 4; day++) {
             talk(x, 0, 60);
             talk(x, 1, 1);

@@ -656,7 +656,8 @@ public final class EdgeCallsTest {
     private static void counts() {
         Due.range("count", n -> Due.small().count(n), 0, 12);
         TownExchange x = Due.small();
-        int[][] steps = {{0, 0, 0}, {1, 1, 0}, {1, 2, 0}, {1, 2, 0}, {1, 2, 0}, {2, 3, 0}, {2, 3, 1}, {1, 1, 1}, {0, 0, 0}};
+        int[][] steps = {{0, 0, 0}, {1, 1, 0}, {1, 2, 0}, {1, 2, 0}, {1, 2, 0}, {2, 3, 0}, {2, 3, 1}, {1, 1, 1},
+            {0, 0, 0}};
         for (int i = 0; i < steps.length; i++) {
             switch (i) {
                 case 1: x.lift(0); break;

@@ -314,7 +314,7 @@ public final class EdgeFaultsTest {
         sure("all", x, 24, 25, 26);
     }
 
-    /** Lines at home in high racks that step to lower ones: THE SET goes by the SWITCHES, not by the order they are met. */
+    /** Lines at home in high racks that step to lower ones: THE SET goes by the SWITCHES, not as they are met. */
     private static void metTheOtherWayRound() {
         TownExchange x = new TownExchange();
         x.rack(1, 8, 1);

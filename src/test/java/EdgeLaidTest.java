@@ -37,15 +37,15 @@ public final class EdgeLaidTest {
     /** laid: NONE: no such LINE, other digits, another what. */
     private static void ranges() {
         Due.range("line", n -> Due.small().laid(n, 9000, 4, 0), 0, 3);
-        Due.range("number", n -> Due.small().laid(0, n < 0 || n > 99999 ? n : 9000, 4, 0), 0, 99999);
         Due.is("99999", Due.small().laid(0, 99999, 5, 0), 0);
         Due.is("100000", Due.small().laid(0, 100000, 5, 0), NONE);
+        Due.is("109000, its last 4", Due.small().laid(0, 109000, 4, 0), NONE);
         Due.is("-1", Due.small().laid(0, -1, 5, 0), NONE);
         Due.range("many", n -> Due.small().laid(0, 41341, n, 0), 5, 5);
         Due.range("many over a junction", n -> Due.small().laid(0, 99999, n, 0), 4, 5);
         Due.is("many 0", Due.small().laid(0, 413, 0, 0), NONE);
         Due.is("the last 3 of 99413", Due.small().laid(0, 99413, 3, 0), 0);
-        TownExchange x = pair();
+        TownExchange x = Due.pair();
         Due.call(x, 0, "101");
         Due.range("what", n -> x.laid(2, 203, 3, n), 0, 1);
         Due.is("what 2, none moved", Due.small().laid(0, 413, 3, 2), NONE);
@@ -61,20 +61,6 @@ public final class EdgeLaidTest {
         due("another", x, 2, "413", 0, NONE);
         x.end(0);
         due("quiet again", x, 0, "413", 0, NONE);
-    }
-
-    /** Level 1 leads to either final, level 2 to 8 alone. */
-    private static TownExchange pair() {
-        TownExchange x = new TownExchange();
-        x.rack(0, 4, 1);
-        x.rack(1, 2, 1);
-        x.outlet(0, 0, 1, 0, 8);
-        x.outlet(0, 0, 1, 1, 9);
-        x.outlet(0, 0, 2, 0, 8);
-        for (int i = 0; i < 6; i++) {
-            x.line(0, 1, i);
-        }
-        return x;
     }
 
     /** LAID is a call by any SWITCH of its LINE's home RACK. */
@@ -242,12 +228,12 @@ public final class EdgeLaidTest {
     private static void onlyCallsThatAreThrough() {
         String[] notThrough = {"1", "10", "100", "177"};
         for (String digits : notThrough) {
-            TownExchange x = pair();
+            TownExchange x = Due.pair();
             Due.call(x, 0, digits);
             Due.is("8 is held", x.held(8), 0);
             due("held by " + digits, x, 2, "203", NONE, NONE);
         }
-        TownExchange x = pair();
+        TownExchange x = Due.pair();
         x.faulty(8, true);
         Due.is("silent", Due.call(x, 0, "101"), 2);
         x.faulty(8, false);
@@ -367,7 +353,7 @@ public final class EdgeLaidTest {
         Due.is("rung", Due.call(middle, 0, "1101"), 5);
         Due.is("over 8", middle.path(0, 1), 8);
         due("the selector in the middle", middle, 2, "1203", 1, 0);
-        TownExchange last = pair();
+        TownExchange last = Due.pair();
         Due.call(last, 0, "101");
         due("the final", last, 2, "203", 1, 0);
     }
@@ -440,7 +426,7 @@ public final class EdgeLaidTest {
 
     /** Both of them holding nothing in common. */
     private static void nothingInCommon() {
-        TownExchange x = pair();
+        TownExchange x = Due.pair();
         Due.call(x, 0, "101");
         due("each a final", x, 2, "203", 1, 0);
         x.out(9, true);
@@ -461,7 +447,7 @@ public final class EdgeLaidTest {
 
     /** What it holds may have been told OUT or FAULTY since: then it can't be laid over that again. */
     private static void itsOwnSwitchIsFaulty() {
-        TownExchange x = pair();
+        TownExchange x = Due.pair();
         Due.call(x, 0, "101");
         x.out(2, true);
         x.out(3, true);
@@ -553,7 +539,7 @@ public final class EdgeLaidTest {
 
     /** 0 if the new one can be LAID so as all else is: none is moved then. */
     private static void noneMovedGoesFirst() {
-        TownExchange x = pair();
+        TownExchange x = Due.pair();
         Due.call(x, 0, "101");
         due("over 9", x, 2, "103", 0, NONE);
         due("over 8", x, 2, "203", 1, 0);

@@ -10,8 +10,8 @@ public final class EdgeTariffTest {
     private static final int TOO_MANY = 5;
 
     private static final String SIX = "let a=1;let b=2;let c=3;let d=4;let e=5;let f=6;";
-    private static final String[] KEPT = {"zone", "hour", "day", "lasted", "units", "line", "let", "unit", "each", "when",
-        "and", "or", "not"};
+    private static final String[] KEPT = {"zone", "hour", "day", "lasted", "units", "line", "let", "unit", "each",
+        "when", "and", "or", "not"};
     private static final String[] WHOLE = {"let", "a", "=", "zone", "and", "1", ";", "unit", "2", "each", "30", "when",
         "not", "(", "hour", "+", "day", "-", "lasted", "*", "units", ")", "or", "line", "<", "3", ";"};
 
@@ -76,7 +76,8 @@ public final class EdgeTariffTest {
             Due.is("so many are there", x.count(10), kept ? 3 : 0);
         }
         Due.is("all bits are none", new TownExchange().feed(-1, -1, -1), 0);
-        Due.is("24 signs", new TownExchange().feed(Due.pack("abcdefgh", 0), Due.pack("ijklmnop", 0), Due.pack("qrstuvwx", 0)), 24);
+        long eight = Due.pack("abcdefgh", 0);
+        Due.is("24 signs", new TownExchange().feed(eight, eight, eight), 24);
         Due.is("none at all", new TownExchange().feed(0, 0, 0), 0);
     }
 
@@ -505,7 +506,8 @@ public final class EdgeTariffTest {
         Due.is("right", Due.tariff(x, "let a=7;unit 7 each 60 when a=7;"), 0);
         Due.is("its units", unitsOfOneSecond(x), 7);
         String[] wrongOnes = {"@", "let a=8;unit 8 each 60 when b;", "unit 9 each 60 when 1;unit 100 each 60 when 1;",
-            "let a=0;let a=1;", SIX + "let g=1;", "unit 3 each 60 when 1;".repeat(17), "unit 4 each 60 when ((((((1))))));"};
+            "let a=0;let a=1;", SIX + "let g=1;", "unit 3 each 60 when 1;".repeat(17),
+            "unit 4 each 60 when ((((((1))))));"};
         for (String wrong : wrongOnes) {
             Due.is("wrong: " + wrong, Due.tariff(x, wrong) > 0, true);
             Due.is("the old one's units", unitsOfOneSecond(x), 7);
@@ -522,7 +524,8 @@ public final class EdgeTariffTest {
     }
 
     private static void nothingStaysOfAWrongOne() {
-        String[] wrongOnes = {"let z=0;@", "let z=1;@", "unit 1 each 60 when 0;@", "unit 1 each 60 when 1;@", "let z=2+3*", "@"};
+        String[] wrongOnes = {"let z=0;@", "let z=1;@", "unit 1 each 60 when 0;@", "unit 1 each 60 when 1;@",
+            "let z=2+3*", "@"};
         for (String first : wrongOnes) {
             for (String second : wrongOnes) {
                 TownExchange x = Due.small();

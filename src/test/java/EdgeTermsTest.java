@@ -98,7 +98,8 @@ public final class EdgeTermsTest {
 
     /** "the DAY is NOW / 86400": a bill can be asked for as known up to the DAY NOW. */
     private static void days() {
-        int[][] dayAt = {{0, 0}, {86399, 0}, {86400, 1}, {172799, 1}, {172800, 2}, {950399, 10}, {950400, 11}, {999999, 11}};
+        int[][] dayAt = {{0, 0}, {86399, 0}, {86400, 1}, {172799, 1}, {172800, 2}, {950399, 10}, {950400, 11},
+            {999999, 11}};
         for (int[] d : dayAt) {
             Due.range("known at " + d[0] + " on day", t -> at(d[0]).bill(0, 0, 11, t), 0, d[1]);
             TownExchange x = at(d[0]);

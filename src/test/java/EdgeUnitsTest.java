@@ -44,7 +44,8 @@ public final class EdgeUnitsTest {
     /** From t = t0 on, while t is below t1. */
     private static void whileBelow() {
         String text = "unit 7 each 30 when 1;";
-        int[][] units = {{0, 0}, {1, 7}, {29, 7}, {30, 7}, {31, 14}, {59, 14}, {60, 14}, {61, 21}, {300, 70}, {301, 77}};
+        int[][] units = {{0, 0}, {1, 7}, {29, 7}, {30, 7}, {31, 14}, {59, 14}, {60, 14}, {61, 21}, {300, 70},
+            {301, 77}};
         for (int[] u : units) {
             due(text, u[0], u[1]);
         }
@@ -184,7 +185,8 @@ public final class EdgeUnitsTest {
         due("let a=lasted;let b=units+a;unit 1 each 60 when b=0;unit 2 each 60 when b=61 or b=123;", 121, 5);
         due("let a=0-5;let b=a*a;unit 25 each 60 when b=25;", 1, 25);
         due("let a=1;let b=a+a;let c=b+b;let d=c+c;let e=d+d;let f=e+e;unit 32 each 60 when f=32;", 1, 32);
-        due("unit 1 each 60 when lasted<60;let a=lasted;unit 2 each 60 when a=60;let b=a+units;unit 3 each 60 when b=123;", 181, 6);
+        due("unit 1 each 60 when lasted<60;let a=lasted;unit 2 each 60 when a=60;let b=a+units;"
+                + "unit 3 each 60 when b=123;", 181, 6);
     }
 
     private static void tells(String e, boolean notNought) {

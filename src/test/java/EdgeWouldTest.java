@@ -156,11 +156,13 @@ public final class EdgeWouldTest {
         Due.is("the same, other digits", block(1, 413, 3, 1, 9000, 4), NONE);
         Due.is("both -1", block(-1, 413, 3, -1, 412, 3), NONE);
         Due.is("both 4", block(4, 413, 3, 4, 412, 3), NONE);
-        Due.range("digits of a, over the junction", n -> block(0, n < 0 || n > 99999 ? n : 9000, 4, 1, 412, 3), 0, 99999);
-        Due.range("digits of b, over the junction", n -> block(0, 413, 3, 1, n < 0 || n > 99999 ? n : 9000, 4), 0, 99999);
         Due.is("99999", block(0, 99999, 5, 1, 412, 3), 0);
         Due.is("100000", block(0, 100000, 5, 1, 412, 3), NONE);
-        Due.is("99999", block(0, 413, 3, 1, 99999, 5), 0);
+        Due.is("109000, its last 4", block(0, 109000, 4, 1, 412, 3), NONE);
+        Due.is("-1", block(0, -1, 4, 1, 412, 3), NONE);
+        Due.is("-1 of b", block(0, 413, 3, 1, -1, 4), NONE);
+        Due.is("99999 of b", block(0, 413, 3, 1, 99999, 5), 0);
+        Due.is("100000 of b", block(0, 413, 3, 1, 100000, 5), NONE);
         Due.is("109000, its last 4", block(0, 413, 3, 1, 109000, 4), NONE);
         Due.range("many of a", n -> block(0, 41341, n, 1, 412, 3), 5, 5);
         Due.range("many of b", n -> block(0, 413, 3, 1, 99999, n), 4, 5);

@@ -39,22 +39,8 @@ public final class LaidTest {
         due(y, 0, 101, 3, 0, -1);
     }
 
-    /** Level 1 leads to either final, level 2 to 8 alone. */
-    private static TownExchange pair() {
-        TownExchange x = new TownExchange();
-        x.rack(0, 4, 1);
-        x.rack(1, 2, 1);
-        x.outlet(0, 0, 1, 0, 8);
-        x.outlet(0, 0, 1, 1, 9);
-        x.outlet(0, 0, 2, 0, 8);
-        for (int i = 0; i < 6; i++) {
-            x.line(0, 1, i);
-        }
-        return x;
-    }
-
     private static void oneMoved() {
-        TownExchange x = pair();
+        TownExchange x = Due.pair();
         Due.call(x, 0, "10");
         due(x, 2, 203, 3, -1, -1);
         x.dial(0, 1);
@@ -70,7 +56,7 @@ public final class LaidTest {
         due(x, 2, 203, 3, -1, -1);
         due(x, 2, 103, 3, -1, -1);
         // the called line's number leads elsewhere by now
-        TownExchange y = pair();
+        TownExchange y = Due.pair();
         Due.call(y, 0, "101");
         y.outlet(0, 0, 1, 1, -1);
         due(y, 2, 203, 3, -1, -1);
@@ -146,7 +132,7 @@ public final class LaidTest {
     }
 
     private static void faultyAndOut() {
-        TownExchange x = pair();
+        TownExchange x = Due.pair();
         x.faulty(8, true);
         Due.is("would meet it", x.would(0, 101, 3), 2);
         due(x, 0, 101, 3, 0, -1);

@@ -90,7 +90,8 @@ final class Refused {
         told.add(new Told("calls end", Refused::endAll));
         told.add(new Told("calls begin", Refused::beginAll));
         told.add(new Told("calls over junctions", Refused::overJunctions));
-        told.add(new Told("the tape is read", y -> y.tariff() + " " + y.count(8) + " " + y.count(9) + " " + y.count(10)));
+        told.add(new Told("the tape is read",
+                y -> y.tariff() + " " + y.count(8) + " " + y.count(9) + " " + y.count(10)));
         told.add(new Told("racks and lines are added",
                 y -> y.rack(1, 1, 1) + " " + y.rack(0, 1, 1) + " " + y.line(0, 1, 98) + " " + y.count(11)));
         told.add(new Told("words are told", y -> y.word(0, 7) + " " + y.word(1, 8) + " " + y.count(6) + " "
