@@ -7,6 +7,7 @@ public final class EdgeFaultsTest {
         notQuiet();
         whatIsNoted();
         sixtyTests();
+        sixtyTestsOfSixSwitches();
         nothingIsHeldByIt();
         whatRanges();
         noneFailed();
@@ -152,6 +153,43 @@ public final class EdgeFaultsTest {
         noted("it passes", y, "211", 5, true);
         noted("and fails", y, "011", 2, true);
         set("24 is left", y, 24);
+    }
+
+    /** The most that can be noted: five digits meet six switches, sixty times. */
+    private static void sixtyTestsOfSixSwitches() {
+        TownExchange x = new TownExchange();
+        for (int rack = 0; rack < 6; rack++) {
+            x.rack(0, 1, 1);
+        }
+        x.rack(1, 1, 1);
+        for (int rack = 0; rack < 5; rack++) {
+            x.outlet(rack, 0, 0, 0, 8 * rack + 8);
+            x.outlet(rack, 0, 9, 0, 100);
+            x.line(rack, 6, rack);
+        }
+        x.faulty(40, true);
+        for (int i = 0; i < 59; i++) {
+            noted("test " + i, x, "00000", 2, true);
+        }
+        set("any of six", x, 0);
+        noted("the 60th", x, "00000", 2, true);
+        set("any of six", x, 0);
+        Due.is("none is sure", x.sure(0) + x.sure(40), 0);
+        Due.is("60", x.forget(), 60);
+        for (int line = 0; line < 5; line++) {
+            Due.is("passes", x.test(line, 9000, 4), 5);
+        }
+        for (int i = 5; i < 60; i++) {
+            noted("test " + i, x, "00000", 2, true);
+        }
+        set("the sixth", x, 40);
+        Due.is("it is sure", x.sure(40), 1);
+        x.forget();
+        for (int i = 0; i < 59; i++) {
+            noted("test " + i, x, "9000", 5, true);
+        }
+        noted("only the 60th fails", x, "00000", 2, true);
+        set("the second of six", x, 8);
     }
 
     private static void nothingIsHeldByIt() {
