@@ -45,7 +45,6 @@ public final class TownExchange {
 
     private static final int MOST_DIGITS = 5;
     private static final int LARGEST_DIGITS = 99999;
-    private static final int[] TENS = {1, 10, 100, 1000, 10000};
 
     private final Plant plant = new Plant();
     private final Calls calls = new Calls(plant);
@@ -300,8 +299,11 @@ public final class TownExchange {
     }
 
     private static int digitAt(int digits, int many, int i) {
-        int rank = many - 1 - i;
-        return rank >= 0 && rank < TENS.length ? digits / TENS[rank] % 10 : 0;
+        int upToThis = digits;
+        for (int behind = i + 1; behind < many; behind++) {
+            upToThis /= 10;
+        }
+        return upToThis % 10;
     }
 
     /** Racks with their switches and outlets, and the junctions; ends are named as in the document. */
@@ -393,6 +395,9 @@ public final class TownExchange {
         }
 
         int leadsFrom(int selector, int level, int place) {
+            if (selector < 0 || selector >= ALL_SWITCHES || level < 0 || level >= LEVELS) {
+                return NONE;
+            }
             return outlets[spot(selector / MOST_SWITCHES, sectionOf(selector), level) + place];
         }
 
@@ -845,12 +850,12 @@ public final class TownExchange {
             return added;
         }
 
+        /** One of them is chosen or is not; a rack's few switches keep this low. */
         private static int ways(int of, int chosen) {
-            int product = 1;
-            for (int i = 0; i < chosen; i++) {
-                product = product * (of - i) / (i + 1);
+            if (chosen == 0) {
+                return 1;
             }
-            return product;
+            return of <= 0 ? 0 : ways(of - 1, chosen - 1) + ways(of - 1, chosen);
         }
     }
 

@@ -11,6 +11,7 @@ public final class EdgeCallsTest {
         notQuiet();
         digits();
         places();
+        lastSelector();
         noneOfTheOutlets();
         ownSwitchesAreHeld();
         longestPath();
@@ -199,6 +200,35 @@ public final class EdgeCallsTest {
             Due.is("head", x.look(0, 2), 2);
         }
         return state;
+    }
+
+    /** Of the last rack that there can be, each SWITCH to the 95th steps by the OUTLETS of its SECTION. */
+    private static void lastSelector() {
+        TownExchange x = new TownExchange();
+        for (int rack = 0; rack < 11; rack++) {
+            x.rack(rack == 10 ? 1 : 0, 8, 1);
+        }
+        x.rack(0, 8, 2);
+        for (int section = 0; section < 2; section++) {
+            x.outlet(11, section, 0, 3, 86 + section);
+            x.outlet(11, section, 9, 3, 114 + section);
+        }
+        x.line(11, 10, 0);
+        for (int which = 88; which < 96; which++) {
+            int section = which % 2;
+            Due.is("by " + which, x.lift(0), 0);
+            Due.is("lowest LEVEL", x.dial(0, 0), 1);
+            Due.path("lowest LEVEL by " + which, x, 0, which, 86 + section);
+            x.end(0);
+            x.lift(0);
+            Due.is("highest LEVEL", x.dial(0, 9), 1);
+            Due.path("highest LEVEL by " + which, x, 0, which, 114 + section);
+            x.end(0);
+            Due.is("laid", x.laid(0, 9000, 4, 0), 0);
+            x.out(which, true);
+        }
+        Due.is("all are out", x.lift(0), 7);
+        Due.is("none can be laid", x.laid(0, 9000, 4, 0), NONE);
     }
 
     /** None: BUSY, or DEAD if none of them leads anywhere. 8 and 100 are held, 24 is out. */
